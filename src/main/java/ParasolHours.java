@@ -580,13 +580,13 @@ public final class ParasolHours {
         }
 
         private static int numbersOf(char letter) {
-            switch (letter) {
-                case 'q': return 1;
-                case 'u': return 3;
-                case 'p': return 1;
-                case 'w': return 2;
-                default: return 0;
+            if (letter == 'u') {
+                return 3;
             }
+            if (letter == 'w') {
+                return 2;
+            }
+            return letter == 'q' || letter == 'p' ? 1 : 0;
         }
 
         private int behindNumber(Text text, int from, int i, char end) {
@@ -608,13 +608,8 @@ public final class ParasolHours {
         }
 
         private boolean accepts(char letter) {
-            switch (letter) {
-                case 'q': return acceptsSquares();
-                case 'u': return acceptsParasol();
-                case 'p': return acceptsPerson();
-                case 'w': return acceptsWork();
-                default: return false;
-            }
+            return letter == 'q' && acceptsSquares() || letter == 'u' && acceptsParasol()
+                || letter == 'p' && acceptsPerson() || letter == 'w' && acceptsWork();
         }
 
         private boolean acceptsSquares() {

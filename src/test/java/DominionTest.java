@@ -284,6 +284,10 @@ public final class DominionTest {
         CHECKS.due("parasol(1, 2)", x.parasol(1, 2), 12);
         CHECKS.due("parasol(0, 3)", x.parasol(0, 3), 0);
         CHECKS.due("parasol(0, 4)", x.parasol(0, 4), 0);
+        x.take(0, 0);
+        x.walk(0, 0);
+        CHECKS.due("parasol(0, 3)", x.parasol(0, 3), 1);
+        CHECKS.due("parasol(0, 4)", x.parasol(0, 4), 1);
         CHECKS.due("parasol(-1, 0)", x.parasol(-1, 0), ParasolHours.BAD);
         CHECKS.due("parasol(2, 0)", x.parasol(2, 0), ParasolHours.BAD);
         CHECKS.due("parasol(0, -1)", x.parasol(0, -1), ParasolHours.BAD);

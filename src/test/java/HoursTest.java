@@ -148,6 +148,13 @@ public final class HoursTest {
         dealt(x, 5, 2, 3, 4, 5, NONE);
         x = Checks.laid("q6;u0,1,0;u0,2,0;u0,3,0;u0,4,0;u0,5,0;u0,6,0;p5;p5;p5;p5;p5;w5,1;");
         dealt(x, 1, 0, 1, 2, 3, 4);
+        // The last one alone can do it, by the PARASOL, or under none, that comes last or first.
+        x = Checks.laid("q6;u0,1,0;u0,2,0;u0,3,0;u0,4,0;u0,5,0;u0,6,0;p5;p5;p5;p5;p4;w4,1;");
+        dealt(x, 1, 1, 2, 3, 4, 0);
+        x = Checks.laid("q6;u0,1,0;u0,2,0;u0,3,0;u0,4,0;u0,5,0;u0,6,0;p5;p5;p5;p5;p4;w4,6;");
+        dealt(x, 1, 0, 1, 2, 3, 5);
+        x = Checks.laid("q6;u0,1,0;u0,2,0;u0,3,0;u0,4,0;u0,5,0;u0,6,0;p5;p5;p5;p5;p4;w4,12;");
+        dealt(x, 1, 0, 1, 2, 3, ParasolHours.NONE);
     }
 
     private static void make() {
