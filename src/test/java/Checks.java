@@ -30,6 +30,31 @@ final class Checks {
         due(what, so ? 1 : 0, 1);
     }
 
+    /** What DEAL answers: how many, each PERSON's, and BAD on either side. */
+    void dealt(ParasolHours x, int most, int... wants) {
+        String before = picture(x);
+        due("deal(-2)", x.deal(-2), ParasolHours.BAD);
+        due("deal(-1)", x.deal(-1), most);
+        for (int k = 0; k < wants.length; k++) {
+            due("deal(" + k + ")", x.deal(k), wants[k]);
+        }
+        due("deal(" + wants.length + ")", x.deal(wants.length), ParasolHours.BAD);
+        holds("nothing changes by deal", picture(x).equals(before));
+    }
+
+    /** What SOONEST answers: who, and behind how many HOURS. */
+    void soonest(ParasolHours x, int w, int who, int hours) {
+        due("soonest(" + w + ", 0)", x.soonest(w, 0), who);
+        due("soonest(" + w + ", 1)", x.soonest(w, 1), hours);
+    }
+
+    /** What FLECKS answers: the chance, above and below. */
+    void chance(ParasolHours x, int u, int h, int n, int tenths, int above, int below) {
+        String call = "flecks(" + u + ", " + h + ", " + n + ", " + tenths + ", ";
+        due(call + "0)", x.flecks(u, h, n, tenths, 0), above);
+        due(call + "1)", x.flecks(u, h, n, tenths, 1), below);
+    }
+
     void end() {
         System.out.println(test + ": " + right + " answers right, " + wrong + " wrong");
         if (wrong != 0) {

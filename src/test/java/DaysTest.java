@@ -20,40 +20,34 @@ public final class DaysTest {
         CHECKS.end();
     }
 
-    private static void chance(ParasolHours x, int u, int h, int n, int tenths, int above, int below) {
-        String call = "flecks(" + u + ", " + h + ", " + n + ", " + tenths + ", ";
-        CHECKS.due(call + "0)", x.flecks(u, h, n, tenths, 0), above);
-        CHECKS.due(call + "1)", x.flecks(u, h, n, tenths, 1), below);
-    }
-
     private static void flecks() {
         CHECKS.promise("26 flecks");
         ParasolHours x = Checks.laid("q3;u0,22,0;u1,22,0;u2,22,0;u3,22,12;p0;");
         for (int u = 0; u < 4; u++) {
-            chance(x, u, 22, 0, 5, 1, 1);
-            chance(x, u, 23, 0, 5, 0, 1);
-            chance(x, u, 22, 8, 0, 1, 1);
-            chance(x, u, 23, 8, 0, 0, 1);
+            CHECKS.chance(x, u, 22, 0, 5, 1, 1);
+            CHECKS.chance(x, u, 23, 0, 5, 0, 1);
+            CHECKS.chance(x, u, 22, 8, 0, 1, 1);
+            CHECKS.chance(x, u, 23, 8, 0, 0, 1);
         }
-        chance(x, 0, 6, 8, 10, 1, 1);
-        chance(x, 2, 2, 8, 10, 1, 1);
-        chance(x, 3, 14, 8, 10, 1, 1);
-        chance(x, 0, 23, 1, 3, 3, 10);
-        chance(x, 0, 22, 1, 3, 7, 10);
-        chance(x, 1, 2, 8, 5, 35, 128);
-        chance(x, 0, 22, 8, 1, 43046721, 100000000);
-        chance(x, 0, 6, 8, 1, 1, 100000000);
-        chance(x, 0, 6, 8, 2, 1, 390625);
-        chance(x, 0, 7, 8, 2, 0, 1);
-        chance(x, 2, 0, 3, 2, 1, 25);
-        chance(x, 2, 0, 4, 2, 1, 25);
-        chance(x, 3, 2, 2, 5, 1, 4);
-        chance(x, 3, 23, 2, 5, 0, 1);
+        CHECKS.chance(x, 0, 6, 8, 10, 1, 1);
+        CHECKS.chance(x, 2, 2, 8, 10, 1, 1);
+        CHECKS.chance(x, 3, 14, 8, 10, 1, 1);
+        CHECKS.chance(x, 0, 23, 1, 3, 3, 10);
+        CHECKS.chance(x, 0, 22, 1, 3, 7, 10);
+        CHECKS.chance(x, 1, 2, 8, 5, 35, 128);
+        CHECKS.chance(x, 0, 22, 8, 1, 43046721, 100000000);
+        CHECKS.chance(x, 0, 6, 8, 1, 1, 100000000);
+        CHECKS.chance(x, 0, 6, 8, 2, 1, 390625);
+        CHECKS.chance(x, 0, 7, 8, 2, 0, 1);
+        CHECKS.chance(x, 2, 0, 3, 2, 1, 25);
+        CHECKS.chance(x, 2, 0, 4, 2, 1, 25);
+        CHECKS.chance(x, 3, 2, 2, 5, 1, 4);
+        CHECKS.chance(x, 3, 23, 2, 5, 0, 1);
         x.pass(1);
-        chance(x, 2, 0, 3, 2, 0, 1);
-        chance(x, 2, 23, 3, 2, 1, 5);
-        chance(x, 2, 23, 1, 2, 0, 1);
-        chance(x, 2, 22, 1, 2, 1, 1);
+        CHECKS.chance(x, 2, 0, 3, 2, 0, 1);
+        CHECKS.chance(x, 2, 23, 3, 2, 1, 5);
+        CHECKS.chance(x, 2, 23, 1, 2, 0, 1);
+        CHECKS.chance(x, 2, 22, 1, 2, 1, 1);
     }
 
     /** Each against a sum over all ways to fall, HOUR by HOUR. */
@@ -90,7 +84,7 @@ public final class DaysTest {
         for (int h = 0; h < 24; h++) {
             BigInteger above = BigInteger.valueOf(ways[h]);
             BigInteger common = above.gcd(all);
-            chance(x, u, h, n, tenths, above.divide(common).intValue(), all.divide(common).intValue());
+            CHECKS.chance(x, u, h, n, tenths, above.divide(common).intValue(), all.divide(common).intValue());
         }
     }
 
@@ -104,12 +98,16 @@ public final class DaysTest {
         }
     }
 
+    static int draw(int z, int k) {
+        BigInteger seed = BigInteger.valueOf(7919L * z + 6151L * k + 1);
+        return seed.multiply(seed).mod(BigInteger.valueOf(65521)).intValue();
+    }
+
     /** A day by the acts of the face itself, on an object that may be spoilt. */
-    private static int[] actedDay(ParasolHours x, int z, int n) {
+    static int[] actedDay(ParasolHours x, int z, int n) {
         int met = x.count(6);
         for (int k = 0; k < n; k++) {
-            BigInteger seed = BigInteger.valueOf(7919L * z + 6151L * k + 1);
-            int draw = seed.multiply(seed).mod(BigInteger.valueOf(65521)).intValue();
+            int draw = draw(z, k);
             int p = draw / 8 % x.count(2);
             int u = draw / 64 % x.count(1);
             int act = draw % 8;

@@ -70,61 +70,52 @@ public final class HoursTest {
         CHECKS.due("agree(0, -1)", x.agree(0, -1), BAD);
     }
 
-    private static void dealt(ParasolHours x, int most, int... wants) {
-        CHECKS.due("deal(-1)", x.deal(-1), most);
-        for (int k = 0; k < wants.length; k++) {
-            CHECKS.due("deal(" + k + ")", x.deal(k), wants[k]);
-        }
-        CHECKS.due("deal(" + wants.length + ")", x.deal(wants.length), BAD);
-        CHECKS.due("deal(-2)", x.deal(-2), BAD);
-    }
-
     private static void deal() {
         CHECKS.promise("18 deal");
         // Each of two could do the work of the other's parasol too; only one way does both.
         ParasolHours x = Checks.laid("q3;u0,5,0;u0,6,0;p1;p2;w1,5;w1,6;w2,5;");
-        dealt(x, 2, 1, 0);
+        CHECKS.dealt(x, 2, 1, 0);
         // Nobody has to be near: PARASOLS are dealt wherever they are.
         x = Checks.laid("q3;u0,5,0;u0,6,0;p0;p2;w2,6;");
         x.take(0, 1);
-        dealt(x, 1, 0, 1);
+        CHECKS.dealt(x, 1, 0, 1);
         // Under none it is NOON but on SQUARE 0.
         x = Checks.laid("q3;u0,12,0;u0,6,0;p0;p2;w0,12;w2,12;");
-        dealt(x, 2, 0, NONE);
+        CHECKS.dealt(x, 2, 0, NONE);
         // One PARASOL is for one PERSON alone, though two may be under it.
         x = Checks.laid("q3;u0,5,0;p1;p2;w1,5;w2,5;");
-        dealt(x, 1, 0, NONE);
+        CHECKS.dealt(x, 1, 0, NONE);
         // Two of one HOUR in one SQUARE are done at one time.
         x = Checks.laid("q3;u0,4,0;u0,5,0;p1;w1,5;w1,5;w1,4;");
-        dealt(x, 2, 1);
+        CHECKS.dealt(x, 2, 1);
         x.walk(0, 1);
-        dealt(x, 0, 0);
+        CHECKS.dealt(x, 0, 0);
     }
 
     private static void dealTies() {
         CHECKS.promise("18 deal: of several the first");
-        dealt(Checks.laid("q3;u0,4,0;u0,5,0;p1;p1;p1;"), 0, 0, 1, NONE);
-        dealt(Checks.laid("q3;u0,4,0;u0,4,0;p1;p1;w1,4;"), 1, 0, 1);
-        dealt(Checks.laid("q3;u0,4,0;u0,5,0;u0,6,0;p1;p1;w1,6;"), 1, 0, 2);
-        dealt(Checks.laid("q3;u0,4,0;u0,5,0;u0,6,0;p1;p1;w1,6;w1,5;"), 2, 1, 2);
-        dealt(Checks.laid("q3;u0,4,0;p1;p1;p1;w1,12;"), 1, 0, NONE, NONE);
-        dealt(Checks.laid("q3;u0,4,0;p1;w1,12;"), 1, NONE);
-        dealt(Checks.laid("q3;u0,12,0;p1;w1,12;"), 1, 0);
+        CHECKS.dealt(Checks.laid("q3;u0,4,0;u0,5,0;p1;p1;p1;"), 0, 0, 1, NONE);
+        CHECKS.dealt(Checks.laid("q3;u0,4,0;u0,4,0;p1;p1;w1,4;"), 1, 0, 1);
+        CHECKS.dealt(Checks.laid("q3;u0,4,0;u0,5,0;u0,6,0;p1;p1;w1,6;"), 1, 0, 2);
+        CHECKS.dealt(Checks.laid("q3;u0,4,0;u0,5,0;u0,6,0;p1;p1;w1,6;w1,5;"), 2, 1, 2);
+        CHECKS.dealt(Checks.laid("q3;u0,4,0;p1;p1;p1;w1,12;"), 1, 0, NONE, NONE);
+        CHECKS.dealt(Checks.laid("q3;u0,4,0;p1;w1,12;"), 1, NONE);
+        CHECKS.dealt(Checks.laid("q3;u0,12,0;p1;w1,12;"), 1, 0);
     }
 
     private static void dealOfWornAndStill() {
         CHECKS.promise("18 deal: WORN, STILL, done");
         ParasolHours x = Checks.laid("q3;u0,5,12;u0,6,0;p0;p1;p0;w1,7;w0,6;w2,12;w0,12;w1,12;");
-        dealt(x, 2, 0, NONE, 1);
+        CHECKS.dealt(x, 2, 0, NONE, 1);
         x.take(0, 0);
         x.pass(1);
         // Person 1 is STILL and has done the work 4; parasol 0 is worn by 13: it is 12 under it.
         CHECKS.due("count(5)", x.count(5), 1);
         CHECKS.due("parasol(0, 2)", x.parasol(0, 2), 13);
-        dealt(x, 2, 0, NONE, 1);
+        CHECKS.dealt(x, 2, 0, NONE, 1);
         x.pass(1);
         CHECKS.due("work(3, 2)", x.work(3, 2), 1);
-        dealt(x, 1, 0, NONE, 1);
+        CHECKS.dealt(x, 1, 0, NONE, 1);
         // STILL under one: another may have it.
         x = Checks.laid("q3;u0,5,12;p0;p0;p0;p2;w2,12;w1,7;w0,12;");
         x.take(0, 0);
@@ -132,29 +123,29 @@ public final class HoursTest {
         x.pass(2);
         CHECKS.due("count(7)", x.count(7), 2);
         CHECKS.due("count(5)", x.count(5), 1);
-        dealt(x, 1, NONE, 0, NONE, NONE);
+        CHECKS.dealt(x, 1, NONE, 0, NONE, NONE);
         x = Checks.laid("q3;u0,5,0;p1;p1;w1,5;");
         x.pass(1);
-        dealt(x, 0, NONE, NONE);
+        CHECKS.dealt(x, 0, NONE, NONE);
     }
 
     private static void dealLarge() {
         CHECKS.promise("18 deal: five and six");
         ParasolHours x = Checks.laid("q6;u0,1,0;u0,2,0;u0,3,0;u0,4,0;u0,5,0;u0,6,0;"
             + "p1;p2;p3;p4;p5;w1,6;w2,5;w3,4;w4,3;w5,2;w1,1;");
-        dealt(x, 5, 0, 4, 3, 2, 1);
+        CHECKS.dealt(x, 5, 0, 4, 3, 2, 1);
         x = Checks.laid("q6;u0,1,0;u0,2,0;u0,3,0;u0,4,0;u0,5,0;u0,6,0;"
             + "p1;p1;p1;p1;p1;w1,6;w1,5;w1,4;w1,3;w1,12;w0,1;");
-        dealt(x, 5, 2, 3, 4, 5, NONE);
+        CHECKS.dealt(x, 5, 2, 3, 4, 5, NONE);
         x = Checks.laid("q6;u0,1,0;u0,2,0;u0,3,0;u0,4,0;u0,5,0;u0,6,0;p5;p5;p5;p5;p5;w5,1;");
-        dealt(x, 1, 0, 1, 2, 3, 4);
+        CHECKS.dealt(x, 1, 0, 1, 2, 3, 4);
         // The last one alone can do it, by the PARASOL, or under none, that comes last or first.
         x = Checks.laid("q6;u0,1,0;u0,2,0;u0,3,0;u0,4,0;u0,5,0;u0,6,0;p5;p5;p5;p5;p4;w4,1;");
-        dealt(x, 1, 1, 2, 3, 4, 0);
+        CHECKS.dealt(x, 1, 1, 2, 3, 4, 0);
         x = Checks.laid("q6;u0,1,0;u0,2,0;u0,3,0;u0,4,0;u0,5,0;u0,6,0;p5;p5;p5;p5;p4;w4,6;");
-        dealt(x, 1, 0, 1, 2, 3, 5);
+        CHECKS.dealt(x, 1, 0, 1, 2, 3, 5);
         x = Checks.laid("q6;u0,1,0;u0,2,0;u0,3,0;u0,4,0;u0,5,0;u0,6,0;p5;p5;p5;p5;p4;w4,12;");
-        dealt(x, 1, 0, 1, 2, 3, ParasolHours.NONE);
+        CHECKS.dealt(x, 1, 0, 1, 2, 3, ParasolHours.NONE);
     }
 
     private static void make() {
@@ -210,33 +201,28 @@ public final class HoursTest {
         CHECKS.due("still(3)", x.still(3), 11);
     }
 
-    private static void asked(ParasolHours x, int w, int who, int hours) {
-        CHECKS.due("soonest(" + w + ", 0)", x.soonest(w, 0), who);
-        CHECKS.due("soonest(" + w + ", 1)", x.soonest(w, 1), hours);
-    }
-
     private static void soonest() {
         CHECKS.promise("21 soonest");
         ParasolHours x = Checks.laid("q3;u0,5,0;u3,1,0;u0,5,0;p0;p0;p0;p0;p2;w1,7;w2,9;w0,14;w2,12;w1,5;w0,4;");
-        asked(x, 0, NONE, NONE);
+        CHECKS.soonest(x, 0, NONE, NONE);
         x.take(0, 0);
         x.take(1, 1);
         x.take(2, 2);
         x.share(3, 0);
-        asked(x, 0, 0, 2);
-        asked(x, 1, 0, 4);
-        asked(x, 2, 0, 9);
-        asked(x, 3, 0, 7);
-        asked(x, 4, 0, 0);
-        asked(x, 5, NONE, NONE);
+        CHECKS.soonest(x, 0, 0, 2);
+        CHECKS.soonest(x, 1, 0, 4);
+        CHECKS.soonest(x, 2, 0, 9);
+        CHECKS.soonest(x, 3, 0, 7);
+        CHECKS.soonest(x, 4, 0, 0);
+        CHECKS.soonest(x, 5, NONE, NONE);
         x.undo();
         x.give(0);
         x.give(2);
-        asked(x, 0, 1, 3);
-        asked(x, 1, 1, 4);
+        CHECKS.soonest(x, 0, 1, 3);
+        CHECKS.soonest(x, 1, 1, 4);
         x.take(3, 0);
-        asked(x, 0, 3, 2);
-        asked(x, 1, 1, 4);
+        CHECKS.soonest(x, 0, 3, 2);
+        CHECKS.soonest(x, 1, 1, 4);
         x.pass(1);
         CHECKS.due("soonest of one that is done", x.soonest(3, 0), NO);
         CHECKS.due("soonest of one that is done", x.soonest(3, 1), NO);
@@ -252,34 +238,34 @@ public final class HoursTest {
         ParasolHours x = Checks.laid("q3;u0,5,10;u1,4,9;p0;p0;w1,7;w1,8;w1,9;w1,10;w1,5;w1,11;");
         x.take(0, 0);
         x.take(1, 1);
-        asked(x, 0, 0, 2);
-        asked(x, 1, 1, 4);
-        asked(x, 2, 1, 5);
-        asked(x, 3, 1, 6);
-        asked(x, 5, NONE, NONE);
+        CHECKS.soonest(x, 0, 0, 2);
+        CHECKS.soonest(x, 1, 1, 4);
+        CHECKS.soonest(x, 2, 1, 5);
+        CHECKS.soonest(x, 3, 1, 6);
+        CHECKS.soonest(x, 5, NONE, NONE);
         x.walk(0, 0);
         x.pass(3);
-        asked(x, 2, 1, 2);
-        asked(x, 1, 1, 1);
+        CHECKS.soonest(x, 2, 1, 2);
+        CHECKS.soonest(x, 1, 1, 1);
         CHECKS.due("work(4, 2)", x.work(4, 2), 1);
         x.pass(1);
         CHECKS.due("person(0, 3)", x.person(0, 3), 1);
         // The next is UNTIL 0 for one that is STILL, whose PARASOL is WORN.
         CHECKS.due("until(0, 9)", x.until(0, 9), 0);
-        asked(x, 2, 1, 1);
+        CHECKS.soonest(x, 2, 1, 1);
         stillUnderAGoodOne();
     }
 
     private static void stillUnderAGoodOne() {
         ParasolHours x = Checks.laid("q3;u0,5,12;u0,3,0;p0;p0;p1;w2,5;w2,6;");
         x.take(0, 0);
-        asked(x, 0, 0, 0);
-        asked(x, 1, NONE, NONE);
+        CHECKS.soonest(x, 0, 0, 0);
+        CHECKS.soonest(x, 1, NONE, NONE);
         x.walk(0, 0);
         x.pass(2);
         x.walk(1, 0);
         CHECKS.due("count(7)", x.count(7), 2);
-        asked(x, 0, NONE, NONE);
+        CHECKS.soonest(x, 0, NONE, NONE);
     }
 
     private static void nothingChanges() {

@@ -13,7 +13,8 @@ public final class RoomTest {
         int rounds = 2000;
         bytesOf(x, 100);
         long bytes = bytesOf(x, rounds);
-        CHECKS.holds("calls make nothing, but made " + bytes + " bytes", bytes < rounds);
+        // The least object has 16 bytes: one in each round would be twice as much as this.
+        CHECKS.holds("calls make nothing, but made " + bytes + " bytes", bytes < 8L * rounds);
         long before = made();
         ParasolHours[] many = new ParasolHours[1000];
         for (int i = 0; i < many.length; i++) {
